@@ -35,6 +35,7 @@ public final class PromiseTests {
         tests.endgameLimit();
         tests.undo();
         tests.digest();
+        tests.digestOfAGame();
         tests.failedCallsChangeNothing();
         tests.examples();
         tests.checks.close("PromiseTests");
@@ -235,6 +236,10 @@ public final class PromiseTests {
         checks.due("undo", 3, () -> b.undo());
         checks.due("after undo", 0, () -> b.setPremium(1, 0, 0));
         checks.due("still", 1, () -> b.setPremium(0, 6, 0));
+        checks.due("the first square", 0, () -> b.setPremium(0, 0, 3));
+        checks.due("the first square again", 3, () -> b.setPremium(0, 0, 3));
+        checks.due("the last square", 0, () -> b.setPremium(6, 6, 2));
+        checks.due("the last square again", 2, () -> b.setPremium(6, 6, 2));
         checks.index("row 7", () -> b.setPremium(7, 0, 0));
         checks.index("row -1", () -> b.setPremium(-1, 0, 0));
         checks.index("column 7", () -> b.setPremium(0, 7, 0));
@@ -598,6 +603,23 @@ public final class PromiseTests {
         checks.due("two words, two places, two directions", 8, () -> b.plays(0));
         checks.due("the other player", 0, () -> b.plays(1));
         checks.due("nothing is saved", 2, () -> b.undo());
+        TileWordBoard edge = board("aaaaaaa", "aaa");
+        row(edge, 3, 0, "aaaaaa");
+        rack(edge, 0, "aa");
+        checks.due("a word up to both edges, and two down", 1 + 7 * 3 - 3, () -> edge.plays(0));
+        TileWordBoard corner = board("ab");
+        corner.setTile(0, 0, 0);
+        rack(corner, 0, "b");
+        checks.due("both ways from the corner", 2, () -> corner.plays(0));
+        checks.due("the first play of all", "0 0 0 0 2 2", described(corner, 0, 0));
+        checks.due("it is the best", 0, () -> corner.bestPlay(0));
+        corner.setPremium(1, 0, 1);
+        checks.due("now the second is", 1, () -> corner.bestPlay(0));
+        corner.setTile(0, 0, NONE);
+        corner.setTile(6, 6, 1);
+        rack(corner, 0, "a");
+        checks.due("up to the last square", "0 6 5 0 2 2", described(corner, 0, 0));
+        checks.due("and down to it", "1 5 6 0 2 2", described(corner, 0, 1));
         checks.index("plays(2)", () -> b.plays(2));
         checks.index("plays(-1)", () -> b.plays(-1));
         TileWordBoard c = board("aa");
@@ -715,6 +737,15 @@ public final class PromiseTests {
         rack(c, 1, "b");
         checks.due("2 points, then 2 and twice 10 for the other", -20, () -> c.endgame(0));
         checks.due("2 points and twice 11", 24, () -> c.endgame(1));
+
+        TileWordBoard d = board("ab", "ac");
+        d.setTile(0, 0, 0);
+        d.setTile(2, 0, 7);
+        d.setLetter(2, 9, 0);
+        rack(d, 0, "bc");
+        rack(d, 1, "d");
+        checks.due("ac on the only place, then b and d stay", 10, () -> d.endgame(0));
+        checks.due("after a pass it is the same", -10, () -> d.endgame(1));
     }
 
     private void endgameLimit() {
@@ -725,6 +756,7 @@ public final class PromiseTests {
         long before = b.digest();
         checks.due("400 positions", 9, () -> b.endgame(0));
         checks.due("nothing changes", before, () -> b.digest());
+        checks.due("400 positions once more", 9, () -> b.endgame(0));
         TileWordBoard c = board("ba");
         rack(c, 0, "bba");
         rack(c, 1, "abb");
@@ -764,6 +796,25 @@ public final class PromiseTests {
         checks.due("undo after undo", 1, () -> b.undo());
         checks.due("premium", 0, () -> b.setPremium(0, 0, 0));
         checks.due("value", 5, () -> b.setLetter(0, 1, 0));
+
+        TileWordBoard d = board("cd", "bc");
+        rack(d, 0, "bcd");
+        d.setLetter(3, 1, 7);
+        long settings = d.digest();
+        d.setLetter(3, 1, -7);
+        text(d, "ab");
+        d.addWord();
+        checks.due("the first word is another", 2, () -> number(d, "cd"));
+        d.undo();
+        checks.due("the words have their numbers again", 0, () -> number(d, "bc"));
+        checks.due("the words have their numbers again", 1, () -> number(d, "cd"));
+        d.undo();
+        checks.due("the leave value is back", 9, () -> d.playAt(0, 0, 5));
+        d.setPremium(0, 0, 0);
+        d.undo();
+        d.setLetter(3, 1, 7);
+        checks.due("all is as before, with one saved state less", settings - 1,
+                () -> d.digest());
 
         TileWordBoard c = board("ab");
         rack(c, 0, "ab");
@@ -812,6 +863,45 @@ public final class PromiseTests {
         b.undo();
         rack(b, 1, "a");
         checks.due("whose rack it is counts", "true", "" + (b.digest() != rack));
+    }
+
+    private void digestOfAGame() {
+        TileWordBoard b = board("ab", "cab");
+        b.setPremium(6, 6, 2);
+        rack(b, 0, "abh");
+        rack(b, 1, "cccc");
+        text(b, "ab");
+        b.play(0, 1, 3, 3);
+        text(b, "cab");
+        b.play(1, 1, 2, 3);
+        int[] settings = {1, 0, 1, 0, 1, 0, 1, 0, 1, 0, 1, 0, 1, 0, 1, 0, 2, 2, 0, 1, 3, 2, 0, 1};
+        int[] squares = new int[98];
+        for (int square = 0; square < 49; square++) {
+            squares[2 * square] = NONE;
+        }
+        squares[2 * 17] = 2;
+        squares[2 * 24] = 0;
+        squares[2 * 31] = 1;
+        squares[2 * 48 + 1] = 2;
+        int[] playerOne = {0, 0, 3, 0, 0, 0, 0, 0, 3, 0};
+        long empty = hash(2803, 0);
+        checks.due("digest without plays", hash(hash(hash(hash(hash(empty, settings), squares),
+                0, 0, 0, 0, 0, 0, 0, 1, 2, 0), playerOne), 8, 4), () -> b.digest());
+        rack(b, 0, "ab");
+        checks.due("digest with four plays", hash(hash(hash(hash(hash(empty, settings), squares),
+                1, 1, 0, 0, 0, 0, 0, 0, 2, 4), playerOne), 8, 4), () -> b.digest());
+        text(b, "gh");
+        long text = hash(2803, 2, 6, 7);
+        checks.due("digest with a text", hash(hash(hash(hash(hash(text, settings), squares),
+                1, 1, 0, 0, 0, 0, 0, 0, 2, 4), playerOne), 8, 4), () -> b.digest());
+    }
+
+    private static long hash(long before, int... values) {
+        long h = before;
+        for (int v : values) {
+            h = 31 * h + v;
+        }
+        return h;
     }
 
     /** The digest of an empty board and empty racks behind some digits. */
