@@ -1,9 +1,5 @@
 /** For each promise of the document: ordinary inputs, the edges that it names, wrong inputs. */
-public final class PromiseTests {
-    private static final int NONE = TileWordBoard.NONE;
-
-    private final Checks checks = new Checks();
-
+public final class PromiseTests extends BoardChecks {
     public static void main(String[] arguments) {
         PromiseTests tests = new PromiseTests();
         tests.newObject();
@@ -39,51 +35,6 @@ public final class PromiseTests {
         tests.failedCallsChangeNothing();
         tests.examples();
         tests.checks.close("PromiseTests");
-    }
-
-    private static TileWordBoard board(String... words) {
-        TileWordBoard board = new TileWordBoard();
-        for (String word : words) {
-            text(board, word);
-            board.addWord();
-        }
-        return board;
-    }
-
-    private static void text(TileWordBoard board, String word) {
-        board.clearText();
-        for (char sign : word.toCharArray()) {
-            board.type(sign - 'a');
-        }
-    }
-
-    private static void rack(TileWordBoard board, int player, String tiles) {
-        text(board, tiles);
-        board.setRack(player);
-    }
-
-    /** Lays tiles to the right, a point for an empty square. */
-    private static void row(TileWordBoard board, int row, int column, String tiles) {
-        for (int k = 0; k < tiles.length(); k++) {
-            char sign = tiles.charAt(k);
-            board.setTile(row, column + k, sign == '.' ? NONE : sign - 'a');
-        }
-    }
-
-    private static int number(TileWordBoard board, String word) {
-        text(board, word);
-        int number = board.lookUp();
-        board.clearText();
-        return number;
-    }
-
-    /** The play at an index as direction, row, column, word, score and equity. */
-    private static String described(TileWordBoard board, int player, int index) {
-        StringBuilder all = new StringBuilder();
-        for (int what = 0; what <= 5; what++) {
-            all.append(what == 0 ? "" : " ").append(board.playAt(player, index, what));
-        }
-        return all.toString();
     }
 
     private void newObject() {
@@ -894,14 +845,6 @@ public final class PromiseTests {
         long text = hash(2803, 2, 6, 7);
         checks.due("digest with a text", hash(hash(hash(hash(hash(text, settings), squares),
                 1, 1, 0, 0, 0, 0, 0, 0, 2, 4), playerOne), 8, 4), () -> b.digest());
-    }
-
-    private static long hash(long before, int... values) {
-        long h = before;
-        for (int v : values) {
-            h = 31 * h + v;
-        }
-        return h;
     }
 
     /** The digest of an empty board and empty racks behind some digits. */
