@@ -2,7 +2,7 @@
  * An engine for a word game with letter tiles on a board of 7 rows and 7 columns.
  *
  * <p>Words, racks, starts and plays are held as numbers and the saved states are used again, so
- * that no call but the first saves makes an object.
+ * that no call but the first saves makes an object, beside the exceptions.
  */
 public final class TileWordBoard {
     public static final int NONE = -1;
